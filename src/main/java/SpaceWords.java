@@ -148,7 +148,7 @@ public final class SpaceWords {
             return refuse(OTHER);
         }
         Way line = along(way);
-        return line.isPossible() ? line.firstNumber(thing, what) : NOT_SO;
+        return line.isFirstDrawn() ? line.firstNumber(thing, what) : NOT_SO;
     }
 
     public int drawn(int way, int a, int b) {
@@ -157,7 +157,7 @@ public final class SpaceWords {
             return refuse(refusal);
         }
         Way line = along(way);
-        return line.isPossible() ? line.firstRelation(a, b) : NOT_SO;
+        return line.isFirstDrawn() ? line.firstRelation(a, b) : NOT_SO;
     }
 
     public int core(int way) {
@@ -273,7 +273,7 @@ public final class SpaceWords {
             return refuse(STATE);
         }
         Way line = along(way);
-        if (!line.isPossible()) {
+        if (!line.isFirstDrawn()) {
             return NOT_SO;
         }
         return Relations.stepsBetween(boxes.relation(way, a, b), line.firstRelation(a, b));
@@ -346,18 +346,18 @@ public final class SpaceWords {
 
     /** The thirteen relations and what holds among them, whatever is told. */
     private static final class Relations {
+        static final int LESS = 1;
+        static final int ALIKE = 2;
+        static final int GREATER = 4;
+
         /**
          * How p's A and Z lie to q's, by relation. The hex digits are A to A, A to Z, Z to A and
-         * Z to Z: 1 below, 2 alike, 4 above.
+         * Z to Z: LESS, ALIKE or GREATER.
          */
         private static final int[] SIGNS = {
             0x1111, 0x1121, 0x1141, 0x2141, 0x4141, 0x4142, 0x2142,
             0x1142, 0x1144, 0x2144, 0x4144, 0x4244, 0x4444
         };
-
-        static final int LESS = 1;
-        static final int ALIKE = 2;
-        static final int GREATER = 4;
 
         /** The composed set of each two relations; the tests prove it from stretches. */
         private static final int[] COMPOSED = {
@@ -465,7 +465,7 @@ public final class SpaceWords {
             return number < other ? LESS : number == other ? ALIKE : GREATER;
         }
 
-        /** How an end of p (0 A, 1 Z) lies to one of q: 1 below, 2 alike, 4 above. */
+        /** How an end of p (0 A, 1 Z) lies to one of q: LESS, ALIKE or GREATER. */
         static int signOfEnds(int relation, int end, int otherEnd) {
             int digit = 3 - (end * 2 + otherEnd);
             return SIGNS[relation] >> digit * 4 & 7;
@@ -481,8 +481,9 @@ public final class SpaceWords {
         }
 
         /**
-         * Whether closing by paths tells all of a set (the "preconvex" or ORD-Horn ones, 868 of
-         * 8192): where all sets of a closed net are such and none is empty, it can be.
+         * Whether closing by paths is enough for a set: where all sets of a closed net are such and
+         * none is empty, it can be. These are the ORD-Horn sets, 868 of 8192, told here as those
+         * whose hull has more only in what has more numbers alike than the set's freest relation.
          */
         static boolean isPlain(int set) {
             int missing = hull(set) & ~set;
@@ -492,7 +493,7 @@ public final class SpaceWords {
             return (missing & ~SAME) == 0;
         }
 
-        /** The least set around a set that is told by bounds on the differences of ends. */
+        /** The least set around a set that bounds on single ends can tell. */
         private static int hull(int set) {
             int signs = 0;
             for (int relation = 0; relation < RELATIONS; relation++) {
@@ -500,8 +501,9 @@ public final class SpaceWords {
                     signs |= SIGNS[relation];
                 }
             }
-            int belowAndAbove = signs & 0x1111 & (signs & 0x4444) >> 2;
-            int bounds = signs | belowAndAbove << 1;
+            // Where both LESS and GREATER are let, no bounds leave ALIKE out.
+            int bothSides = signs & 0x1111 & (signs & 0x4444) >> 2;
+            int bounds = signs | bothSides << 1;
             int found = 0;
             for (int relation = 0; relation < RELATIONS; relation++) {
                 if ((SIGNS[relation] & ~bounds) == 0) {
@@ -791,7 +793,7 @@ public final class SpaceWords {
         private int changesSeen;
         private int possible;
         private int coreFound;
-        private boolean firstIsDrawn;
+        private boolean firstIsKnown;
 
         Way(int way, Statements statements, Search search) {
             this.way = way;
@@ -842,15 +844,28 @@ public final class SpaceWords {
             return canSets[place];
         }
 
-        /** The relation of a to b in the first drawing, where it can be. */
+        /** Draws the first drawing, if it can be; whether it is there. */
+        boolean isFirstDrawn() {
+            if (!isPossible()) {
+                return false;
+            }
+            if (!firstIsKnown) {
+                System.arraycopy(closedNet, 0, firstNet, 0, Nets.SIZE);
+                for (int pair = 0; pair < Nets.PAIRS; pair++) {
+                    takeLeast(Nets.firstOf(pair), Nets.secondOf(pair));
+                }
+                numberEnds();
+                firstIsKnown = true;
+            }
+            return true;
+        }
+
         int firstRelation(int a, int b) {
-            drawFirst();
             return Relations.least(firstNet[a * THINGS + b]);
         }
 
-        /** The number of a thing's A (end 0) or Z (1) in the first drawing, where it can be. */
+        /** The number of a thing's A (end 0) or Z (1) in the first drawing. */
         int firstNumber(int thing, int end) {
-            drawFirst();
             return firstNumbers[thing * 2 + end];
         }
 
@@ -873,7 +888,7 @@ public final class SpaceWords {
             System.arraycopy(toldNet, 0, closedNet, 0, Nets.SIZE);
             possible = Nets.close(closedNet, Nets.EVERY_PAIR) ? UNKNOWN : 0;
             coreFound = UNKNOWN;
-            firstIsDrawn = false;
+            firstIsKnown = false;
             Arrays.fill(canSets, UNKNOWN);
         }
 
@@ -891,25 +906,16 @@ public final class SpaceWords {
             return kept;
         }
 
-        private void drawFirst() {
-            if (firstIsDrawn || !isPossible()) {
-                return;
-            }
-            System.arraycopy(closedNet, 0, firstNet, 0, Nets.SIZE);
-            for (int a = 0; a < THINGS; a++) {
-                for (int b = a + 1; b < THINGS; b++) {
-                    boolean open = true;
-                    for (int relation = 0; relation < RELATIONS && open; relation++) {
-                        if ((firstNet[a * THINGS + b] >> relation & 1) != 0
-                                && search.canHoldWith(firstNet, a, b, relation)) {
-                            search.keepNet(firstNet);
-                            open = false;
-                        }
-                    }
+        /** Narrows the first drawing's net to the least relation of a to b with which it can be. */
+        private void takeLeast(int a, int b) {
+            int set = firstNet[a * THINGS + b];
+            for (int relation = 0; relation < RELATIONS; relation++) {
+                if ((set >> relation & 1) != 0
+                        && search.canHoldWith(firstNet, a, b, relation)) {
+                    search.keepNet(firstNet);
+                    return;
                 }
             }
-            numberEnds();
-            firstIsDrawn = true;
         }
 
         /** Each end counts the different ends below it, each of them by the first of its likes. */
