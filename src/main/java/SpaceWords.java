@@ -482,35 +482,28 @@ public final class SpaceWords {
 
         /**
          * Whether closing by paths is enough for a set: where all sets of a closed net are such and
-         * none is empty, it can be. These are the ORD-Horn sets, 868 of 8192, told here as those
-         * whose hull has more only in what has more numbers alike than the set's freest relation.
+         * none is empty, it can be. These are the ORD-Horn sets, 868 of 8192: no relation without
+         * alike numbers is missing whose signs are all found in the set, be it in different ones.
          */
         static boolean isPlain(int set) {
-            int missing = hull(set) & ~set;
-            if ((set & NONE_ALIKE) != 0) {
-                return (missing & NONE_ALIKE) == 0;
+            int signs = allSigns(set);
+            int missing = NONE_ALIKE & ~set;
+            for (int relation = 0; relation < RELATIONS; relation++) {
+                if ((missing >> relation & 1) != 0 && (SIGNS[relation] & ~signs) == 0) {
+                    return false;
+                }
             }
-            return (missing & ~SAME) == 0;
+            return true;
         }
 
-        /** The least set around a set that bounds on single ends can tell. */
-        private static int hull(int set) {
+        private static int allSigns(int set) {
             int signs = 0;
             for (int relation = 0; relation < RELATIONS; relation++) {
                 if ((set >> relation & 1) != 0) {
                     signs |= SIGNS[relation];
                 }
             }
-            // Where both LESS and GREATER are let, no bounds leave ALIKE out.
-            int bothSides = signs & 0x1111 & (signs & 0x4444) >> 2;
-            int bounds = signs | bothSides << 1;
-            int found = 0;
-            for (int relation = 0; relation < RELATIONS; relation++) {
-                if ((SIGNS[relation] & ~bounds) == 0) {
-                    found |= 1 << relation;
-                }
-            }
-            return found;
+            return signs;
         }
     }
 
@@ -520,18 +513,9 @@ public final class SpaceWords {
         static final int PAIRS = 15;
         static final int EVERY_PAIR = (1 << PAIRS) - 1;
 
+        /** The pairs in the order in which the first drawing takes them. */
         private static final int[] FIRST = {0, 0, 0, 0, 0, 1, 1, 1, 1, 2, 2, 2, 3, 3, 4};
         private static final int[] SECOND = {1, 2, 3, 4, 5, 2, 3, 4, 5, 3, 4, 5, 4, 5, 5};
-
-        /** The pair of two things, at a * 6 + b; what stands for a thing with itself is not used. */
-        private static final int[] PAIR = {
-            0, 0, 1, 2, 3, 4,
-            0, 0, 5, 6, 7, 8,
-            1, 5, 0, 9, 10, 11,
-            2, 6, 9, 0, 12, 13,
-            3, 7, 10, 12, 0, 14,
-            4, 8, 11, 13, 14, 0
-        };
 
         /** A set shrinks thirteen times at most, and each time its pair is looked at once more. */
         private static final int MOST_ROUNDS = PAIRS * (RELATIONS + 1);
@@ -540,7 +524,10 @@ public final class SpaceWords {
         private static final int EMPTIED = 1 << PAIRS;
 
         static int pairOf(int a, int b) {
-            return PAIR[a * THINGS + b];
+            int lesser = a < b ? a : b;
+            int greater = a < b ? b : a;
+            int ahead = lesser * (2 * THINGS - 1 - lesser) / 2;
+            return ahead + greater - lesser - 1;
         }
 
         static int firstOf(int pair) {
@@ -600,7 +587,7 @@ public final class SpaceWords {
             }
             net[a * THINGS + b] = left;
             net[b * THINGS + a] = Relations.turn(left);
-            return 1 << PAIR[a * THINGS + b];
+            return 1 << pairOf(a, b);
         }
     }
 

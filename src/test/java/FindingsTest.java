@@ -19,6 +19,8 @@ public final class FindingsTest {
         refusals();
         fourThings();
         sixThings();
+        closingSpreads();
+        hardNets();
         CHECKS.done("FindingsTest");
     }
 
@@ -296,5 +298,81 @@ public final class FindingsTest {
                 }
             }
         }
+    }
+
+    private static int someSet(Random random, int bits) {
+        int set = 0;
+        while (Integer.bitCount(set) < bits) {
+            set |= 1 << random.nextInt(13);
+        }
+        return set;
+    }
+
+    /** Few statements with few relations each: what they let must go round by many paths. */
+    private static void closingSpreads() {
+        Random random = new Random(23);
+        for (int round = 0; round < 3000; round++) {
+            SpaceWords x = new SpaceWords();
+            int[][] net = Plain.open();
+            int told = 4 + random.nextInt(9);
+            for (int i = 0; i < told; i++) {
+                int a = random.nextInt(6);
+                int b = (a + 1 + random.nextInt(5)) % 6;
+                int set = someSet(random, 1 + random.nextInt(1 + told / 2));
+                x.tell(a, b, 8191, set);
+                Plain.narrow(net, a, b, set);
+            }
+            Plain.close(net);
+            for (int a = 0; a < 6; a++) {
+                for (int b = 0; b < 6; b++) {
+                    if (a != b) {
+                        CHECKS.due("spread " + round + ": closed", x.closed(1, a, b), net[a][b]);
+                    }
+                }
+            }
+        }
+    }
+
+    /** Nets of one to three sets for all pairs: among them many where closing sees too little. */
+    private static void hardNets() {
+        Random random = new Random(29);
+        int unseen = 0;
+        int narrower = 0;
+        for (int round = 0; round < 4000; round++) {
+            SpaceWords x = new SpaceWords();
+            int[][] net = Plain.open();
+            int[] sets = new int[1 + random.nextInt(2)];
+            for (int i = 0; i < sets.length; i++) {
+                sets[i] = someSet(random, 3 + random.nextInt(3));
+            }
+            for (int a = 0; a < 6; a++) {
+                for (int b = a + 1; b < 6; b++) {
+                    int set = sets[random.nextInt(sets.length)];
+                    boolean ahead = random.nextBoolean();
+                    x.tell(ahead ? a : b, ahead ? b : a, set, 8191);
+                    Plain.narrow(net, ahead ? a : b, ahead ? b : a, set);
+                }
+            }
+            if (x.closed(0, 0, 1) == 0) {
+                continue;
+            }
+            int[][] first = Plain.first(net);
+            CHECKS.due("hard " + round + ": canBe", x.canBe(0), first == null ? 0 : 1);
+            unseen += first == null ? 1 : 0;
+            for (int a = 0; a < 6; a++) {
+                for (int b = a + 1; b < 6; b++) {
+                    int drawn = first == null ? -9 : Integer.numberOfTrailingZeros(first[a][b]);
+                    CHECKS.due("hard " + round + ": drawn", x.drawn(0, a, b), drawn);
+                    // All pairs of all nets would take the plain one too long.
+                    if (random.nextInt(10) == 0) {
+                        int can = first == null ? 0 : Plain.can(net, a, b);
+                        CHECKS.due("hard " + round + ": can", x.can(0, a, b), can);
+                        narrower += first != null && can != x.closed(0, a, b) ? 1 : 0;
+                    }
+                }
+            }
+        }
+        System.out.println("hard nets: " + unseen + " can't be though closed, " + narrower + " sets narrower than closed");
+        CHECKS.holds("hard nets are hard", unseen >= 20 && narrower >= 50);
     }
 }
