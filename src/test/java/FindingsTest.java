@@ -58,6 +58,17 @@ public final class FindingsTest {
         x.silent(5, true);
         CHECKS.due("canBe", x.canBe(0), 1);
         CHECKS.due("core", x.core(0), 0);
+        // One set for all pairs of five things.
+        for (int set : new int[] {1025, 1057}) {
+            SpaceWords y = new SpaceWords();
+            int[][] pairs = {{0, 1}, {0, 2}, {0, 3}, {1, 2}, {1, 4}, {2, 3}, {2, 4}, {3, 4}, {4, 0}, {3, 1}};
+            for (int[] pair : pairs) {
+                y.tell(pair[0], pair[1], set, 8191);
+            }
+            CHECKS.due("closed of " + set, y.closed(0, 0, 1), set);
+            CHECKS.due("canBe of " + set, y.canBe(0), 0);
+            CHECKS.due("core of " + set, y.core(0), 1023);
+        }
     }
 
     private static void emptySets() {
@@ -343,7 +354,7 @@ public final class FindingsTest {
             int[][] net = Plain.open();
             int[] sets = new int[1 + random.nextInt(2)];
             for (int i = 0; i < sets.length; i++) {
-                sets[i] = someSet(random, 3 + random.nextInt(3));
+                sets[i] = someSet(random, 2 + random.nextInt(4));
             }
             for (int a = 0; a < 6; a++) {
                 for (int b = a + 1; b < 6; b++) {
