@@ -12,6 +12,7 @@ public final class FindingsTest {
     public static void main(String[] args) {
         closingNarrows();
         closingIsNotAll();
+        oneSetTooMany();
         emptySets();
         firstDrawing();
         cores();
@@ -69,6 +70,70 @@ public final class FindingsTest {
             CHECKS.due("canBe of " + set, y.canBe(0), 0);
             CHECKS.due("core of " + set, y.core(0), 1023);
         }
+    }
+
+    /** A set that alone of all asks for a search, whichever pair it is of. */
+    private static void oneSetTooMany() {
+        for (int a = 0; a < 6; a++) {
+            for (int b = 0; b < 6; b++) {
+                if (a != b) {
+                    oneSetTooMany(a, b);
+                }
+            }
+        }
+    }
+
+    private static void oneSetTooMany(int a, int b) {
+        SpaceWords x = new SpaceWords();
+        String pair = " of " + a + " and " + b;
+        tellNothingAlike(x, a, b);
+        CHECKS.due("closed, A and Z less or alike" + pair, x.closed(1, a, b), 207);
+        CHECKS.due("can, A and Z less" + pair, x.can(1, a, b), 7);
+        CHECKS.due("can, turned" + pair, x.can(1, b, a), 7168);
+        x.tell(a, b, 8191, 200);
+        CHECKS.due("closed, A or Z alike" + pair, x.closed(1, a, b), 200);
+        CHECKS.due("canBe, A or Z alike" + pair, x.canBe(1), 0);
+        CHECKS.due("can, A or Z alike" + pair, x.can(1, a, b), 0);
+        CHECKS.due("core, A or Z alike" + pair, x.core(1), 2047);
+        CHECKS.due("drawn, A or Z alike" + pair, x.drawn(1, a, b), -9);
+        x.silent(4, true);
+        CHECKS.due("can, but for different A" + pair, x.can(1, a, b), 8);
+        CHECKS.due("drawn, but for different A" + pair, x.drawn(1, a, b), 3);
+        x.silent(4, false);
+        x.silent(9, true);
+        CHECKS.due("can, but for different Z" + pair, x.can(1, a, b), 128);
+        CHECKS.due("drawn, but for different Z" + pair, x.drawn(1, b, a), 5);
+    }
+
+    /**
+     * Tells, along way 1, of the other four that a and b have neither A nor Z alike, which no
+     * closing sees: two of them have different A that lie from a's to b's, two have such Z.
+     */
+    private static void tellNothingAlike(SpaceWords x, int a, int b) {
+        int lessOrAlikeA = 975;
+        int lessOrAlikeZ = 255;
+        int differentA = 7607;
+        int differentZ = 7967;
+        int[] others = othersThan(a, b);
+        for (int i = 0; i < 4; i++) {
+            int set = i < 2 ? lessOrAlikeA : lessOrAlikeZ;
+            x.tell(a, others[i], 8191, set);
+            x.tell(others[i], b, 8191, set);
+            if (i % 2 == 1) {
+                x.tell(others[i - 1], others[i], 8191, i < 2 ? differentA : differentZ);
+            }
+        }
+    }
+
+    private static int[] othersThan(int a, int b) {
+        int[] others = new int[4];
+        int found = 0;
+        for (int thing = 0; thing < 6; thing++) {
+            if (thing != a && thing != b) {
+                others[found++] = thing;
+            }
+        }
+        return others;
     }
 
     private static void emptySets() {

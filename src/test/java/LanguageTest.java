@@ -6,7 +6,9 @@ import java.lang.reflect.Modifier;
 import java.nio.file.Files;
 import java.nio.file.Path;
 import java.util.Arrays;
+import java.util.Map;
 import java.util.Set;
+import java.util.TreeMap;
 import java.util.TreeSet;
 import java.util.regex.Matcher;
 import java.util.regex.Pattern;
@@ -33,6 +35,7 @@ public final class LanguageTest {
         face();
         classesInside();
         source();
+        depth();
         CHECKS.done("LanguageTest");
     }
 
@@ -115,16 +118,86 @@ public final class LanguageTest {
             assigned++;
         }
         CHECKS.due("what is made", makers, assigned);
-        int start = 0;
-        String[] lines = all.split("\n");
-        for (int i = 0; i < lines.length; i++) {
-            if (lines[i].matches(" {4}( {4})?[a-z].*\\) \\{")) {
-                start = i;
-            }
-            if (lines[i].matches(" {4}( {4})?\\}")) {
-                CHECKS.holds("a short method at line " + start, start == 0 || i - start < 60);
-                start = 0;
+        Map<String, String> bodies = bodies();
+        for (String method : bodies.keySet()) {
+            CHECKS.holds("a short method: " + method, bodies.get(method).lines().count() < 60);
+        }
+    }
+
+    /** Calls go at most eight deep, a method's calls of itself aside. */
+    private static void depth() throws IOException {
+        Map<String, String> bodies = bodies();
+        Map<String, Set<String>> calls = new TreeMap<>();
+        for (String caller : bodies.keySet()) {
+            calls.put(caller, called(caller, bodies));
+        }
+        CHECKS.holds("findCore calls close and canHold",
+                calls.get("Way.findCore").containsAll(Set.of("Nets.close", "Search.canHold")));
+        CHECKS.holds("settles calls itself", bodies.get("Search.settles").contains(" settles("));
+        for (String member : FACE) {
+            String name = "SpaceWords." + member.substring(0, member.indexOf('('));
+            int deepest = deepest(name, calls, 0);
+            CHECKS.holds(name + " goes " + deepest + " deep", deepest >= 1 && deepest <= 8);
+        }
+        CHECKS.due("core's depth", deepest("SpaceWords.core", calls, 0), 8);
+    }
+
+    /** The lines of each method, by its class and name. */
+    private static Map<String, String> bodies() throws IOException {
+        Pattern begin = Pattern.compile(" {4}( {4})?(private |public |static )*[a-zA-Z\\[\\]]+ (\\w+)\\(.*\\) \\{");
+        Pattern inside = Pattern.compile(" {4}private static final class (\\w+) \\{");
+        Map<String, String> bodies = new TreeMap<>();
+        String owner = "SpaceWords";
+        String method = null;
+        String end = null;
+        for (String line : Files.readAllLines(Path.of("src/main/java/SpaceWords.java"))) {
+            Matcher opened = inside.matcher(line);
+            Matcher begun = begin.matcher(line);
+            if (opened.matches()) {
+                owner = opened.group(1);
+            } else if (begun.matches()) {
+                method = owner + "." + begun.group(3);
+                end = line.substring(0, line.length() - line.stripLeading().length()) + "}";
+                CHECKS.holds("one method of its name: " + method, bodies.put(method, "") == null);
+            } else if (line.equals(end)) {
+                method = null;
+            } else if (method != null) {
+                bodies.merge(method, line.replaceAll("//.*", "") + "\n", String::concat);
             }
         }
+        return bodies;
+    }
+
+    /**
+     * What a method calls. A call without a dot is of its own class; one behind a class's name is of
+     * that class; one behind another name may be of any class that has such a method.
+     */
+    private static Set<String> called(String caller, Map<String, String> bodies) {
+        Set<String> found = new TreeSet<>();
+        String owner = caller.substring(0, caller.indexOf('.'));
+        Matcher call = Pattern.compile("(?:(\\w+|\\))\\.)?(\\w+)\\(").matcher(bodies.get(caller));
+        while (call.find()) {
+            String before = call.group(1) == null ? owner : call.group(1);
+            for (String other : bodies.keySet()) {
+                boolean named = other.endsWith("." + call.group(2));
+                boolean ofClass = Character.isUpperCase(before.charAt(0));
+                if (named && (!ofClass || other.startsWith(before + "."))) {
+                    found.add(other);
+                }
+            }
+        }
+        found.remove(caller);
+        return found;
+    }
+
+    private static int deepest(String method, Map<String, Set<String>> calls, int above) {
+        if (above > 20) {
+            return 1;
+        }
+        int below = 0;
+        for (String called : calls.getOrDefault(method, Set.of())) {
+            below = Math.max(below, deepest(called, calls, above + 1));
+        }
+        return 1 + below;
     }
 }
